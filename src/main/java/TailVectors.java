@@ -29,7 +29,7 @@ public final class TailVectors {
     private static final int NOTHING_OWN = 0x7fffffff;
 
     /** Where the slots of each level begin: 300 values need 74 leaves, then 19, 5, 2 and 1 blocks. */
-    private static final int[] LEVEL_STARTS = {0, 74, 93, 98, 100, SLOTS};
+    private static final int[] LEVEL_STARTS = {0, 74, 93, 98, 100, 101};
 
     private final State now;
     private final State snapshot;
