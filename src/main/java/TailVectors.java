@@ -410,7 +410,7 @@ public final class TailVectors {
         /** A copy that has room for some values more. */
         Row copy(int more) {
             Row copy = new Row(length + more);
-            int many = Math.min(length, copy.values.length);
+            int many = Math.min(length, Math.min(values.length, copy.values.length));
             for (int i = 0; i < many; i++) {
                 copy.values[i] = values[i];
             }
