@@ -36,6 +36,8 @@ public final class TailVectors {
     private boolean hasSnapshot;
     private final History history;
     private final Text text;
+    /** Changes that are only asked about are tried on it, so that asking takes no room. */
+    private final Row trial;
 
     public TailVectors() {
         now = new State();
@@ -43,6 +45,7 @@ public final class TailVectors {
         hasSnapshot = false;
         history = new History();
         text = new Text();
+        trial = new Row(MOST_VALUES);
         now.addView(new View(new Row(0), false, 0, 0));
     }
 
@@ -333,7 +336,7 @@ public final class TailVectors {
         if (view.window || (what == 0 ? length >= MOST_VALUES : length == 0)) {
             return NOT_POSSIBLE;
         }
-        Row trial = view.row.copy(1);
+        trial.copyFrom(view.row);
         switch (what) {
             case 0: return trial.write(length, 0, now.made, NOTHING_OWN);
             case 1: return trial.removeLast(now.made, NOTHING_OWN);
@@ -410,15 +413,19 @@ public final class TailVectors {
         /** A copy that has room for some values more. */
         Row copy(int more) {
             Row copy = new Row(length + more);
-            int many = Math.min(length, Math.min(values.length, copy.values.length));
+            copy.copyFrom(this);
+            return copy;
+        }
+
+        void copyFrom(Row other) {
+            int many = Math.min(other.length, Math.min(values.length, other.values.length));
             for (int i = 0; i < many; i++) {
-                copy.values[i] = values[i];
+                values[i] = other.values[i];
             }
             for (int i = 0; i < SLOTS; i++) {
-                copy.numbers[i] = numbers[i];
+                numbers[i] = other.numbers[i];
             }
-            copy.length = many;
-            return copy;
+            length = many;
         }
 
         int leaves() {

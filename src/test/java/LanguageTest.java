@@ -1,6 +1,10 @@
 import java.io.IOException;
 import java.nio.file.Files;
 import java.nio.file.Path;
+import java.util.Map;
+import java.util.Set;
+import java.util.TreeMap;
+import java.util.TreeSet;
 import java.util.regex.Matcher;
 import java.util.regex.Pattern;
 
@@ -9,6 +13,9 @@ public final class LanguageTest {
     private static final Path PROGRAM = Path.of("src/main/java/TailVectors.java");
     private static final int MOST_LINES = 60;
     private static final int MOST_CLASSES = 12;
+    private static final int MOST_CALLS_DEEP = 8;
+    private static final Pattern METHOD = Pattern.compile(
+        "(?m)^( {4}| {8})(?! |if\\b|for\\b|while\\b|switch\\b)(?:[\\w\\[\\]]+ )*(\\w+)\\(([^)]*)\\) \\{$");
 
     private final Check check = new Check();
     private final String code;
@@ -24,6 +31,7 @@ public final class LanguageTest {
         test.library();
         test.statements();
         test.lengths();
+        test.depth();
         test.check.end();
     }
 
@@ -81,17 +89,62 @@ public final class LanguageTest {
         none("a loop without an end", "while \\(true\\)|for \\(;;\\)|for \\([^;]*;\\s*;");
     }
 
+    /** The text of a method or constructor, from its head to the brace that ends it. */
+    private String textOf(Matcher method) {
+        return code.substring(method.start(), code.indexOf("\n" + method.group(1) + "}", method.end()));
+    }
+
     private void lengths() {
         check.topic("rule 11");
-        Matcher method = Pattern.compile("(?m)^( {4}| {8})(?! )(?:[\\w\\[\\]]+ )+(\\w+)\\(([^)]*)\\) \\{$").matcher(code);
+        Matcher method = METHOD.matcher(code);
         int methods = 0;
         while (method.find()) {
             methods++;
-            int end = code.indexOf("\n" + method.group(1) + "}", method.end());
-            int lines = code.substring(method.start(), end).split("\n").length;
+            int lines = textOf(method).split("\n").length;
             check.that(method.group(2) + " has " + lines + " lines", lines <= MOST_LINES);
             check.that(method.group(2) + " has too many parameters", method.group(3).split(",").length <= 7);
         }
         check.that("the methods are found: " + methods, methods > 50);
+    }
+
+    /** Methods of one name count as one that calls what any of them calls. */
+    private void depth() {
+        check.topic("rules 8 and 11");
+        Map<String, Set<String>> calls = new TreeMap<>();
+        Matcher method = METHOD.matcher(code);
+        while (method.find()) {
+            calls.computeIfAbsent(method.group(2), name -> new TreeSet<>())
+                .addAll(calledIn(code.substring(method.end(), method.start() + textOf(method).length())));
+        }
+        check.that("calls are found", calls.getOrDefault("push", Set.of()).contains("rowWith"));
+        for (String name : calls.keySet()) {
+            int deep = deep(name, calls, new TreeSet<>());
+            check.that(name + " goes " + deep + " calls deep", deep <= MOST_CALLS_DEEP);
+        }
+    }
+
+    private static Set<String> calledIn(String body) {
+        Set<String> called = new TreeSet<>();
+        Matcher call = Pattern.compile("\\b(\\w+)\\(").matcher(body);
+        while (call.find()) {
+            called.add(call.group(1));
+        }
+        return called;
+    }
+
+    /** How many calls stand open at once below a method; far too many if it comes back to itself. */
+    private static int deep(String name, Map<String, Set<String>> calls, Set<String> open) {
+        if (!calls.containsKey(name)) {
+            return 0;
+        }
+        if (!open.add(name)) {
+            return 1000;
+        }
+        int deepest = 0;
+        for (String called : calls.get(name)) {
+            deepest = Math.max(deepest, deep(called, calls, open));
+        }
+        open.remove(name);
+        return deepest + 1;
     }
 }

@@ -1,6 +1,7 @@
 /** The limits of the lines of each promise from inside: what is just allowed, and its answer. */
 public final class LinesTest {
     private static final int UNKNOWN = -1;
+    private static final int NOT_POSSIBLE = -4;
     private static final int NONE = -5;
 
     private final Check check = new Check();
@@ -446,6 +447,33 @@ public final class LinesTest {
         y.begin(1);
         y.set(1, 0, 5);
         due("push", y.wouldMake(2, 0), 2);
+        wouldMakeOneAfterTheOther();
+    }
+
+    private void wouldMakeOneAfterTheOther() {
+        check.topic("wouldMake: whatever was asked before, and nothing changes");
+        int[] lengths = {0, 9, 85, 296};
+        int[] pushing = {0, 0, 0, 5};
+        int[] popping = {NOT_POSSIBLE, 1, 2, 0};
+        int[] setting = {NOT_POSSIBLE, 2, 4, 5};
+        TailVectors x = new TailVectors();
+        for (int length : lengths) {
+            Make.fillEdit(x, length);
+            x.finish();
+        }
+        int made = x.count(2);
+        for (int i = 0; i < lengths.length * lengths.length; i++) {
+            int other = i % lengths.length;
+            x.wouldMake(i / lengths.length + 1, i % 3);
+            due("push on " + lengths[other], x.wouldMake(other + 1, 0), pushing[other]);
+            due("pop of " + lengths[other], x.wouldMake(other + 1, 1), popping[other]);
+            due("set in " + lengths[other], x.wouldMake(other + 1, 2), setting[other]);
+        }
+        due("made", x.count(2), made);
+        for (int i = 0; i < lengths.length - 1; i++) {
+            due("length", x.vector(i + 1, 3), lengths[i]);
+            due("the same values as far as they go", x.differ(i + 1, lengths.length), lengths[i]);
+        }
     }
 
     private void edit() {
